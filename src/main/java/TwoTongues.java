@@ -1078,7 +1078,7 @@ public final class TwoTongues {
             long each = children == 0 ? 0 : part / children;
             lapsed += (part - each * children) * often;
             for (int i = 0; i < people.size; i++) {
-                if (each > 0 && people.isChild(i, person, year)) {
+                if (people.isChild(i, person, year)) {
                     send(i, each, often);
                 }
             }
@@ -1143,6 +1143,10 @@ public final class TwoTongues {
             return size - 1;
         }
 
+        int everyOne() {
+            return (1 << size) - 1;
+        }
+
         int foundedBy(int facts) {
             int set = 0;
             for (int i = 0; i < size; i++) {
@@ -1180,7 +1184,7 @@ public final class TwoTongues {
         abstract int priceOf(int claim, int upTo);
 
         int arrange(int set) {
-            all = set & (1 << claims.size) - 1;
+            all = set & claims.everyOne();
             for (int through = all; through >= 0; through--) {
                 if ((through & ~all) == 0) {
                     rest[through] = cheapestRest(through);
@@ -1250,7 +1254,7 @@ public final class TwoTongues {
 
         int arrangeFrom(int year) {
             from = year;
-            return arrange((1 << claims.size) - 1);
+            return arrange(claims.everyOne());
         }
 
         int lengthOf(int claim) {

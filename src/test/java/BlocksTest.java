@@ -18,6 +18,7 @@ public final class BlocksTest {
         shareThroughDead();
         shareAsToldWhenAsked();
         shareThroughManyWays();
+        deathsInTurn();
         small();
         CHECK.end();
     }
@@ -219,13 +220,13 @@ public final class BlocksTest {
         due("a year ahead", x.share(0, 0, 9), NO);
         due("another block", x.share(1, 0, 10), NO);
         x.person(40, 0, 1);
-        x.person(50, 0, 1);
+        x.person(60, 0, 1);
         x.person(61, 0, 1);
         x.die(0, 60);
         due("till it is dead", x.share(0, 0, 59), 333333333333L);
         due("none left", x.share(0, 0, 60), 0);
         due("half of it, cut", x.share(0, 3, 60), 166666666666L);
-        due("half of it, cut", x.share(0, 4, 60), 166666666666L);
+        due("half of it, cut, to one born that year", x.share(0, 4, 60), 166666666666L);
         due("born too late", x.share(0, 5, 200), 0);
         due("the other parent has its own", x.share(0, 1, 200), 333333333333L);
         due("what is over", x.share(0, -1, 60), 2);
@@ -305,6 +306,28 @@ public final class BlocksTest {
         }
     }
 
+    /** Those who die later have lower numbers, and more than one dies in a year. */
+    private static void deathsInTurn() {
+        TwoTongues x = withBlocks(1);
+        for (int i = 0; i < 4; i++) {
+            x.person(0, -1, -1);
+            x.founder(i, 0);
+        }
+        x.person(5, 2, 3);
+        x.person(5, 0, 1);
+        x.die(3, 10);
+        x.die(2, 11);
+        x.die(1, 12);
+        x.die(0, 12);
+        x.shares(0, 0, 6);
+        due("of the first", x.share(0, 4, 10), WHOLE / 4);
+        due("of both", x.share(0, 4, 11), WHOLE / 2);
+        due("nobody else yet", x.share(0, 5, 11), 0);
+        due("of both", x.share(0, 5, 12), WHOLE / 2);
+        due("as ahead", x.share(0, 4, 12), WHOLE / 2);
+        due("nothing lapsed", x.share(0, -1, 200), 0);
+    }
+
     private static long walk(int dead, long part, long[] due) {
         if (dead == 29) {
             due[29] += part;
@@ -336,6 +359,14 @@ public final class BlocksTest {
         due("a millionth", x.small(0, 1000000), NONE);
         x.die(2, 100);
         due("nobody is not some one", x.small(0, 4), 200);
+        x.person(0, 3, 4);
+        x.person(0, 3, 4);
+        x.die(4, 150);
+        due("through a dead child, less than a twelfth", x.small(0, 12), 200);
+        due("but no less than a thirteenth", x.small(0, 13), NONE);
+        x.die(3, 200);
+        due("through both dead children, a sixth", x.small(0, 6), 200);
+        due("through both dead children", x.small(0, 7), NONE);
         int[][] wrong = {{2, 3}, {-1, 3}, {0, 0}, {0, -1}, {0, 1000001}};
         for (int[] w : wrong) {
             due("small bad", x.small(w[0], w[1]), BAD);

@@ -5,11 +5,11 @@ import java.util.Random;
 
 /** Runs of calls, drawn by a fixed seed, on TwoTongues and on the Model: all answers must be alike. */
 public final class ModelTest {
-    private static final int RUNS = 400;
+    private static final int RUNS = 600;
     private static final int CALLS = 512;
     private static final int[] EDGES = {-1, -2, 0, 1, 5, 6, 7, 8, 9, 10, 11, 12, 20, 29, 30, 35, 36, 50, 51, 63, 64, 100, 101, 200, 201, 255, 256,
         1000, 1001, 1023, 1024, 100000, 100001, 1000000, 1000001, Integer.MIN_VALUE, Integer.MAX_VALUE};
-    /** The highest number that each argument takes, and the lowest where it is not 0; p: a person, b: a block, and so on. */
+    /** Each call with the kinds of its arguments. */
     private static final String[] FACE = {
         "book tongue word year verbs", "write tongue n long", "wipe tongue", "fault tongue", "force tongue", "means tongue word year",
         "let tongue verb thing year facts", "why tongue verb thing year facts", "unlike year facts place", "least act year", "doneBy act year facts",
@@ -19,7 +19,13 @@ public final class ModelTest {
         "claim kin weight person time facts asked", "founded facts", "falls facts fact", "hear year place", "left claim year flag", "cousins kin kin",
         "settled kin k flagNumber", "settlement sum ratio", "topped settlement", "plan coin facts place", "count what"};
 
+    /** What a run mostly calls, so that its calls meet one another; an empty row: everything. */
+    private static final String[] TOPICS = {"", "book means let why unlike least doneBy", "person founder say of odds cousins settled",
+        "person founder die block shares share small", "block paper use holds deed could twice take wronged claim left",
+        "die claim founded falls hear plan settlement topped"};
+
     private final Random random;
+    private final List<String> topic;
     private final TwoTongues x = new TwoTongues();
     private final Model model = new Model();
     private final List<String> log = new ArrayList<>();
@@ -36,6 +42,11 @@ public final class ModelTest {
         lastYear = seed % 2 == 0 ? 200 : 12;
         kins = seed % 5 == 0 ? 10 : 3;
         mostClaims = seed % 40 == 0 ? 7 : 5;
+        topic = List.of(TOPICS[seed % 7 % TOPICS.length].split(" "));
+    }
+
+    private boolean isOffTopic(String name) {
+        return topic.size() > 1 && !topic.contains(name) && random.nextInt(12) != 0;
     }
 
     public static void main(String[] args) throws Exception {
@@ -52,7 +63,7 @@ public final class ModelTest {
             if (!call("person")) return false;
         }
         while (made < CALLS) {
-            boolean text = random.nextInt(12) == 0;
+            boolean text = random.nextInt(isOffTopic("book") ? 200 : 12) == 0;
             if (!(text ? writeText() : call(null))) return false;
         }
         return true;
@@ -63,6 +74,7 @@ public final class ModelTest {
         while (name != null && !row[0].equals(name)) {
             row = FACE[random.nextInt(FACE.length)].split(" ");
         }
+        if (name == null && isOffTopic(row[0])) return true;
         if (row[0].equals("claim") && model.count(8) >= mostClaims && random.nextInt(3000) != 0) return true;
         if (row[0].equals("person") && name == null && random.nextInt(3) != 0) return true;
         if (row[0].equals("die") && random.nextInt(2) != 0) return true;

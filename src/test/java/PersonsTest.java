@@ -149,6 +149,8 @@ public final class PersonsTest {
         due("of another kin", x.odds(0, 3), 0);
         x.founder(0, 2);
         due("of a person that is of it too", x.odds(0, 2), 4);
+        x.say(0, 1, 2, false);
+        due("the first person too", x.odds(1, 2), 1);
         due("odds person", x.odds(7, 0), BAD);
         due("odds person", x.odds(-1, 0), BAD);
         due("odds kin", x.odds(0, 10), BAD);
