@@ -22,6 +22,9 @@ public final class TwoTongues {
     private static final int FACT_SETS = 1 << FACTS;
     private static final int KIN_SETS = 1 << KINS;
 
+    /** More than any COUSINS, WEIGHTS or WAIT can be together. */
+    private static final int MANY = 1000000000;
+
     private static final int BOOK_ROOM = 20;
     private static final int TEXT_ROOM = 240;
     /** The shortest ITEM (w0,0,0;) has 7 bytes. */
@@ -409,7 +412,7 @@ public final class TwoTongues {
             return BAD;
         }
         int best = 0;
-        int fewest = Integer.MAX_VALUE;
+        int fewest = MANY;
         for (int set = 0; set < KIN_SETS; set++) {
             if (hasBit(set, kin) && Integer.bitCount(set) == k) {
                 int cut = people.cousinsCut(set);
@@ -1207,7 +1210,7 @@ public final class TwoTongues {
         }
 
         private int cheapestRest(int through) {
-            int cheapest = through == all ? 0 : Integer.MAX_VALUE;
+            int cheapest = through == all ? 0 : MANY;
             int length = lengthOfAll(through);
             for (int claim = 0; claim < claims.size; claim++) {
                 if (hasBit(all & ~through, claim)) {

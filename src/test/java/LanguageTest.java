@@ -57,7 +57,7 @@ public final class LanguageTest {
         """;
     private static final String[] RULED_OUT = {"\\bthrows?\\b", "\\btry\\b", "\\bcatch\\b", "\\bsynchronized\\b", "\\bassert\\b", "->", "::",
         "\\bstatic\\s*\\{", "\\w+Exact\\b", "\\bThread\\b", "\\bRandom\\b", "\\bpackage\\b", "\\bequals\\b", "\\bhashCode\\b", "\\btoString\\b",
-        "System\\.(?!arraycopy)", "\\bObject\\b", "@"};
+        "System\\.(?!arraycopy)", "Integer\\.(?!bitCount)", "Math\\.(?!min|max)", "Arrays\\.(?!copyOf|fill)", "\\bObject\\b", "@"};
 
     public static void main(String[] args) throws Exception {
         face();
