@@ -55,9 +55,10 @@ public final class LanguageTest {
         int plan(int, int, int)
         int count(int)
         """;
-    private static final String[] RULED_OUT = {"\\bthrows?\\b", "\\btry\\b", "\\bcatch\\b", "\\bsynchronized\\b", "\\bassert\\b", "->", "::",
-        "\\bstatic\\s*\\{", "\\w+Exact\\b", "\\bThread\\b", "\\bRandom\\b", "\\bpackage\\b", "\\bequals\\b", "\\bhashCode\\b", "\\btoString\\b",
-        "System\\.(?!arraycopy)", "Integer\\.(?!bitCount)", "Math\\.(?!min|max)", "Arrays\\.(?!copyOf|fill)", "\\bObject\\b", "@"};
+    /** Words that rules 2 to 6 and 13 leave out: an arrow may stand behind a case, equals between two Strings. */
+    private static final String[] RULED_OUT = {"\\bthrows?\\b", "\\btry\\b", "\\bcatch\\b", "\\bsynchronized\\b", "\\bassert\\b",
+        "(?m)^(?!\\s*(case|default)\\b).*->", "::", "\\bstatic\\s*\\{", "\\w+Exact\\b", "\\bThread\\b", "\\bRandom\\b", "\\bpackage\\b", "\\bhashCode\\b",
+        "System\\.(?!arraycopy)", "(Integer|Long|Math)\\.[A-Z]", "Arrays\\.(?!copyOf|fill)", "\\bObject\\b", "@"};
 
     public static void main(String[] args) throws Exception {
         face();
@@ -120,7 +121,7 @@ public final class LanguageTest {
             CHECK.hold("no " + word, !Pattern.compile(word).matcher(code).find());
         }
         for (String line : code.split("\n")) {
-            if (line.startsWith("import")) CHECK.hold(line, line.equals("import java.util.Arrays;"));
+            if (line.startsWith("import")) CHECK.hold(line, line.matches("import java\\.util\\.(Arrays|ArrayList|List|Iterator);"));
         }
         CHECK.hold("signs of 1 to 127 alone", text.chars().allMatch(c -> c > 0 && c < 128));
     }
