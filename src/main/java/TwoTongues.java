@@ -1022,9 +1022,10 @@ public final class TwoTongues {
         final People people;
         final long[] parts = new long[PERSON_ROOM];
         long lapsed;
-        // Parcels on their way from one dead; alike ones of one heir are kept once, with how often
-        // they come, since the ways through many dead grow past counting.
-        int[] heir = new int[FIRST_PARCELS];
+        // Parcels on their way from one dead, chained by heir; alike ones of one heir are kept once,
+        // with how often they come, since the ways through many dead grow past counting.
+        final int[] firstOf = new int[PERSON_ROOM];
+        int[] next = new int[FIRST_PARCELS];
         long[] value = new long[FIRST_PARCELS];
         long[] times = new long[FIRST_PARCELS];
         int parcels;
@@ -1059,53 +1060,73 @@ public final class TwoTongues {
 
         void inherit(int dead, int year) {
             parcels = 0;
+            Arrays.fill(firstOf, -1);
             send(dead, parts[dead], 1);
             parts[dead] = 0;
             // children have higher numbers, so all parcels of a PERSON are there when its turn comes
             for (int person = dead; person < people.size; person++) {
-                int sent = parcels;
-                for (int i = 0; i < sent; i++) {
-                    if (heir[i] == person) {
-                        arrive(person, value[i], times[i], year);
+                if (!people.isDead(person, year)) {
+                    keep(person);
+                } else if (firstOf[person] >= 0) {
+                    cut(person, people.children(person, year));
+                    handOn(person, year);
+                }
+            }
+        }
+
+        void keep(int person) {
+            int at = firstOf[person];
+            for (int i = 0; i < parcels && at >= 0; i++) {
+                parts[person] += value[at] * times[at];
+                at = next[at];
+            }
+        }
+
+        /** Each parcel of a dead one becomes what one of its children gets of it. */
+        void cut(int person, int children) {
+            int at = firstOf[person];
+            for (int i = 0; i < parcels && at >= 0; i++) {
+                long each = children == 0 ? 0 : value[at] / children;
+                lapsed += (value[at] - each * children) * times[at];
+                value[at] = each;
+                at = next[at];
+            }
+        }
+
+        void handOn(int person, int year) {
+            for (int child = person + 1; child < people.size; child++) {
+                if (people.isChild(child, person, year)) {
+                    int at = firstOf[person];
+                    for (int i = 0; i < parcels && at >= 0; i++) {
+                        send(child, value[at], times[at]);
+                        at = next[at];
                     }
                 }
             }
         }
 
-        void arrive(int person, long part, long often, int year) {
-            if (!people.isDead(person, year)) {
-                parts[person] += part * often;
-                return;
-            }
-            int children = people.children(person, year);
-            long each = children == 0 ? 0 : part / children;
-            lapsed += (part - each * children) * often;
-            for (int i = 0; i < people.size; i++) {
-                if (people.isChild(i, person, year)) {
-                    send(i, each, often);
-                }
-            }
-        }
-
         void send(int person, long part, long often) {
-            for (int i = 0; i < parcels; i++) {
-                if (heir[i] == person && value[i] == part) {
-                    times[i] += often;
+            int at = firstOf[person];
+            for (int i = 0; i < parcels && at >= 0; i++) {
+                if (value[at] == part) {
+                    times[at] += often;
                     return;
                 }
+                at = next[at];
             }
             makeRoom();
-            if (parcels < heir.length) {
-                heir[parcels] = person;
+            if (parcels < next.length) {
+                next[parcels] = firstOf[person];
                 value[parcels] = part;
                 times[parcels] = often;
+                firstOf[person] = parcels;
                 parcels++;
             }
         }
 
         void makeRoom() {
-            if (parcels == heir.length && parcels < MOST_PARCELS) {
-                heir = Arrays.copyOf(heir, 2 * parcels);
+            if (parcels == next.length && parcels < MOST_PARCELS) {
+                next = Arrays.copyOf(next, 2 * parcels);
                 value = Arrays.copyOf(value, 2 * parcels);
                 times = Arrays.copyOf(times, 2 * parcels);
             }
