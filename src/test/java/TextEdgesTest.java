@@ -15,6 +15,7 @@ public final class TextEdgesTest {
         figures();
         signs();
         fromToTo();
+        readAnew();
         placeOfTheFault();
         itemsInForce();
         yearsOfARule();
@@ -99,9 +100,10 @@ public final class TextEdgesTest {
         due("of one year the latest told by the text", x.means(0, 0, 100), 7);
         due("of one year the text", x.means(0, 0, 99), 6);
         due("nothing ahead", x.means(0, 0, 98), 0);
-        Check.enact(x, 0, "w0,100,5;w0,99,6;");
-        due("the text's later year, though written ahead", x.means(0, 0, 100), 5);
-        due("the text's year ahead", x.means(0, 0, 99), 6);
+        TwoTongues alone = inForce("w0,100,5;w0,99,6;", "");
+        due("the text's later year, though written ahead", alone.means(0, 0, 100), 5);
+        due("the text's year ahead", alone.means(0, 0, 99), 6);
+        due("nothing ahead of both", alone.means(0, 0, 98), 0);
         Check.enact(x, 0, "w0,100,0;");
         due("the text tells none, ahead of the book", x.means(0, 0, 100), 0);
         Check.enact(x, 0, "w1,100,1;");
@@ -257,6 +259,7 @@ public final class TextEdgesTest {
     // "each a letter, numbers parted by , and ;": the signs next to each one are none
     private static void signs() {
         for (char letter = 0; letter < 256; letter++) {
+            for (String numbers : new String[] {"", ";", "0", "0;", ",;", "0,0;", "0,0,0,0;", "0,0,0,0,0,0;"}) faulty(letter + numbers);
             if (letter != 'w') faulty(letter + "0,0,0;");
             if (letter != 'l' && letter != 'b') faulty(letter + "0,0,0,0,0;");
             if (letter != ',') faulty("w0" + letter + "0,0;");
@@ -283,6 +286,35 @@ public final class TextEdgesTest {
             for (int[] years : good) good(item(letter, new int[] {0, 0, years[0], years[1], 0}));
             for (int[] years : bad) faulty(item(letter, new int[] {0, 0, years[0], years[1], 0}));
         }
+    }
+
+    /** What was read once, well or with a fault, leaves nothing behind for the next reading. */
+    private static void readAnew() {
+        String[] wrong = {"w8,0,0;", "w0,201,0;", "w0,0,64;", "w999,999,999;", "l8,0,0,0,0;", "l0,6,0,0,0;", "b0,0,201,201,0;", "b0,0,9,8,0;", "b0,0,0,201,0;", "l0,0,0,0,256;",
+            "l999,999,999,999,999;", "l9,9,9", "x", "w9,9,9,9"};
+        String[] good = {"w7,200,63;", "w0,0,0;", "l7,5,200,200,255;", "l0,0,0,0,0;", "b7,5,0,200,255;", "b0,0,0,0,0;"};
+        for (String bad : wrong) {
+            for (String right : good) {
+                TwoTongues x = new TwoTongues();
+                Check.write(x, 0, bad);
+                due("fault of " + bad, x.fault(0), 0);
+                due("fault of " + right + " behind " + bad, Check.enact(x, 0, right), 1);
+                due("no fault of " + right + " behind " + bad, x.fault(0), NONE);
+                Check.write(x, 0, bad);
+                due("fault behind " + right, x.fault(0), right.length());
+                due("force behind " + right, x.force(0), NO);
+                for (String cut : new String[] {"x0;", "l0;", "w;", "b0,0,0,0;"}) {
+                    Check.enact(x, 0, right + cut);
+                    due("what stands in " + right + " is not read on in " + cut, x.fault(0), right.length());
+                }
+            }
+        }
+        TwoTongues x = new TwoTongues();
+        x.book(0, 0, 0, 1);
+        for (String text : new String[] {"l0,5,0,200,255;", "w0,100,63;", "b0,0,0,200,0;", "w7,0,0;", "l0,0,50,60,1;"}) due("one in place of another", Check.enact(x, 0, text), 1);
+        int[][] rows = {{49, 1, NONE}, {50, 1, 0}, {60, 1, 0}, {61, 1, NONE}, {50, 0, NONE}};
+        for (int[] r : rows) ruled(x, 0, 0, r[0], r[1], r[2]);
+        due("the book alone", x.means(0, 0, 200), 1);
     }
 
     // "FAULT: the place of the first byte of the first ITEM that is not so."
