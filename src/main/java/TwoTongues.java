@@ -1096,12 +1096,18 @@ public final class TwoTongues {
         void handOn(int person, int year) {
             for (int child = person + 1; child < people.size; child++) {
                 if (people.isChild(child, person, year)) {
-                    int at = firstOf[person];
-                    for (int i = 0; i < parcels && at >= 0; i++) {
-                        send(child, value[at], times[at]);
-                        at = next[at];
-                    }
+                    sendAll(person, child);
                 }
+            }
+        }
+
+        void sendAll(int person, int child) {
+            // sending makes parcels of the child, so the bound is what there was ahead of it
+            int known = parcels;
+            int at = firstOf[person];
+            for (int i = 0; i < known && at >= 0; i++) {
+                send(child, value[at], times[at]);
+                at = next[at];
             }
         }
 
